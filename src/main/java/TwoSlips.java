@@ -832,39 +832,26 @@ public final class TwoSlips {
 
         /** The tree of a saying with so many of not, ( open around it, or NONE and a fault. */
         private int readSaying(int depth) {
-            int head = readPart(depth);
-            if (head == NONE || !isWord("or")) {
+            return readJoined(Talk.OR, "or", depth);
+        }
+
+        /** Parts joined by or, or facts joined by and; a single one stands for itself. */
+        private int readJoined(int itsKind, String word, int depth) {
+            int head = itsKind == Talk.OR ? readJoined(Talk.AND, "and", depth) : readFact(depth);
+            if (head == NONE || !isWord(word)) {
                 return head;
             }
             int last = head;
-            for (int i = 0; i < TAPE && isWord("or"); i++) {
+            for (int i = 0; i < TAPE && isWord(word); i++) {
                 step();
-                int part = readPart(depth);
+                int part = itsKind == Talk.OR ? readJoined(Talk.AND, "and", depth) : readFact(depth);
                 if (part == NONE) {
                     return NONE;
                 }
                 talk.next[last] = part;
                 last = part;
             }
-            return grow(Talk.OR, 0, head);
-        }
-
-        private int readPart(int depth) {
-            int head = readFact(depth);
-            if (head == NONE || !isWord("and")) {
-                return head;
-            }
-            int last = head;
-            for (int i = 0; i < TAPE && isWord("and"); i++) {
-                step();
-                int fact = readFact(depth);
-                if (fact == NONE) {
-                    return NONE;
-                }
-                talk.next[last] = fact;
-                last = fact;
-            }
-            return grow(Talk.AND, 0, head);
+            return grow(itsKind, 0, head);
         }
 
         private int readFact(int depth) {
@@ -1189,7 +1176,7 @@ public final class TwoSlips {
 
         boolean isSo(int turn, int pair) {
             boolean stands = struckBy[pair] >= turn;
-            hearing.weigh(talk.saying[turn], turn, hearing.left[stands ? turn : 0], 1);
+            hearing.weigh(talk.saying[turn], turn, hearing.left[stands ? turn : 0], 1, 0);
             return (pairs.truths[pair] & 1) != 0;
         }
 
@@ -1232,6 +1219,9 @@ public final class TwoSlips {
 
     /** What is left of some worlds while turns are said, one behind the other. */
     private static final class Hearing {
+        // Of nine sayings around one another each may have an or, an and, and what stands around the next.
+        private static final int DEEPEST = 30;
+
         private final Pairs pairs;
         // The first left[t] of the row are left behind t turns: a turn only reorders those ahead of it.
         final int[] row;
@@ -1292,7 +1282,7 @@ public final class TwoSlips {
         /** Blames the slips of a speaker with which he can't be sure of a turn's saying behind so many turns. */
         void blame(int turn, int s, int behind) {
             int heard = talk.isDeaf(s) ? 0 : behind;
-            weigh(talk.saying[turn], heard, left[heard], 1);
+            weigh(talk.saying[turn], heard, left[heard], 1, 0);
             pairs.blame(row, left[heard], 1, pairs.slips(talk.sight[s]));
         }
 
@@ -1319,32 +1309,31 @@ public final class TwoSlips {
             left[turns] = kept;
         }
 
-        /**
-         * Weighs a fact behind so many turns, in the first pairs of the row: the bit of their truths tells whether it is so.
-         * How deep facts stand in one another is bounded as the text is read.
-         */
-        void weigh(int fact, int behind, int many, int bit) {
+        /** Weighs a fact behind so many turns, in the first pairs of the row: the bit of their truths tells whether it is so. */
+        void weigh(int fact, int behind, int many, int bit, int depth) {
+            // A text in which facts stand as deep in one another as this is never taken.
+            if (depth > DEEPEST) {
+                return;
+            }
             int number = talk.number[fact];
             int inner = talk.inner[fact];
             switch (talk.kind[fact]) {
                 case Talk.NOT:
-                    weigh(inner, behind, many, bit);
+                    weigh(inner, behind, many, bit, depth + 1);
                     turnOver(many, bit);
                     break;
                 case Talk.AND:
-                    weighParts(inner, behind, many, bit, true);
-                    break;
                 case Talk.OR:
-                    weighParts(inner, behind, many, bit, false);
+                    weighParts(fact, behind, many, bit, depth + 1);
                     break;
                 case Talk.KNOWS:
                     weighKnows(number, left[talk.isDeaf(number) ? 0 : behind], many, bit);
                     break;
                 case Talk.SEES:
-                    weighSees(number, inner, talk.isDeaf(number) ? 0 : behind, many, bit);
+                    weighSees(fact, talk.isDeaf(number) ? 0 : behind, many, bit, depth + 1);
                     break;
                 case Talk.WAS:
-                    weigh(inner, Math.min(number, behind), many, bit);
+                    weigh(inner, Math.min(number, behind), many, bit, depth + 1);
                     break;
                 default:
                     weighPlain(talk.kind[fact], number, many, bit);
@@ -1359,12 +1348,14 @@ public final class TwoSlips {
             }
         }
 
-        private void weighParts(int first, int behind, int many, int bit, boolean all) {
+        private void weighParts(int fact, int behind, int many, int bit, int depth) {
             int[] truths = pairs.truths;
-            weigh(first, behind, many, bit);
-            int part = talk.next[first];
+            boolean all = talk.kind[fact] == Talk.AND;
+            int part = talk.inner[fact];
+            weigh(part, behind, many, bit, depth);
+            part = talk.next[part];
             for (int p = 0; p < Talk.FACTS && part != NONE; p++) {
-                weigh(part, behind, many, bit << 1);
+                weigh(part, behind, many, bit << 1, depth);
                 for (int i = 0; i < many; i++) {
                     int both = truths[row[i]];
                     int other = both >> 1 & bit;
@@ -1388,9 +1379,9 @@ public final class TwoSlips {
             }
         }
 
-        private void weighSees(int s, int inner, int behind, int many, int bit) {
-            int[] slip = pairs.slips(talk.sight[s]);
-            weigh(inner, behind, left[behind], bit);
+        private void weighSees(int fact, int behind, int many, int bit, int depth) {
+            int[] slip = pairs.slips(talk.sight[talk.number[fact]]);
+            weigh(talk.inner[fact], behind, left[behind], bit, depth);
             pairs.blame(row, left[behind], bit, slip);
             int[] met = pairs.met;
             int mark = pairs.mark;

@@ -341,10 +341,36 @@ public final class AgainstOracleTest {
         return test.wrong;
     }
 
+    /** Facts as deep in one another as a text may have them, each behind others of its row. */
+    private static int runDeepest() {
+        AgainstOracleTest test = new AgainstOracleTest(0);
+        String[] opening = {"sees 0(", "sees 1(", "was 1(", "("};
+        String[] ahead = {"same or above 3 and ", "knows 1 or not even and ", "knows 0 and ", "above 7 or above 4 and "};
+        String[] behind = {")", " or even)", " and not knows 0)"};
+        for (int i = 0; i < 60; i++) {
+            StringBuilder saying = new StringBuilder();
+            for (int depth = 0; depth < 8; depth++) {
+                // In the first ones the innermost counts: the last speaker sees both numbers.
+                saying.append(ahead[i < 10 ? 0 : test.below(4)]).append(i < 10 ? "sees 2(" : opening[test.below(4)]);
+            }
+            saying.append(i % 2 == 0 ? "knows 0 or even and knows 1" : "even or not even and above 5");
+            for (int depth = 0; depth < 8; depth++) {
+                saying.append(behind[i < 10 ? 0 : test.below(3)]);
+            }
+            test.tell("numbers 1 to 6;speaker sum;speaker product;speaker squares;say 1 not same or even;say 0 " + saying + ";say 2 " + saying + ";");
+            if (!test.both("count", 6).equals("3")) {
+                test.wrong++;
+                System.out.println("the deepest text has a fault");
+            }
+            test.sweepWorlds();
+        }
+        return test.wrong;
+    }
+
     public static void main(String[] args) {
         int runs = args.length > 0 ? Integer.parseInt(args[0]) : 150;
         long first = args.length > 1 ? Long.parseLong(args[1]) : 1;
-        int wrong = 0;
+        int wrong = runDeepest();
         for (long seed = first; seed < first + runs && wrong < 20; seed++) {
             int its = run(seed);
             if (its > 0) {

@@ -598,14 +598,14 @@ public final class TwoSlips {
             return unlike ? x + 1 : x;
         }
 
+        /** The world of two numbers, the lower one first, or NONE. */
         int numberOf(int x, int y) {
             if (x < from || y > to || y < lowestPartner(x) || x + y > most) {
                 return NONE;
             }
             int ahead = 0;
             for (int lower = from; lower < x; lower++) {
-                int top = Math.min(to, most - lower);
-                ahead += Math.max(0, top - lowestPartner(lower) + 1);
+                ahead += Math.min(to, most - lower) - lowestPartner(lower) + 1;
             }
             return ahead + y - lowestPartner(x);
         }

@@ -98,6 +98,13 @@ public final class PromisesTest {
         faultIs("unlike\t;", 1, 6);
         faultIs("unlike;" + (char) 225, 1, 7);
         faultIs("Unlike;", 1, 0);
+        faultIs("a;", 2, 0);
+        faultIs("z;", 2, 0);
+        faultIs("0;", 2, 0);
+        faultIs("9;", 2, 0);
+        for (char c : new char[] {'a' - 1, 'z' + 1, '0' - 1, '9' + 1, 9, 11, 13, 31, 33, '*', '<', 0, 127, 128, 255}) {
+            faultIs("unlike " + c, 1, 7);
+        }
         faultIs("numbers 0001 to 4;", 1, 8);
         faultIs("most 1 2000;", 3, 5);
         faultIs("most 2 2000;", 1, 7);
@@ -150,6 +157,19 @@ public final class PromisesTest {
         faultIs(one + "not not not not not not not not was 3 even;", 2, 56);
         faultIs(one + "not not not not even and not not not not not not not not even;", 0, NONE);
         faultIs(one + "even ((((((((((even;", 2, 23);
+        TwoSlips part = new TwoSlips();
+        Due.feed(part, "most 119;");
+        Due.is("4 a number cut by n", -12, () -> part.talk(7));
+        Due.is("4 the end is n", 7, () -> part.fault(1));
+        Due.feed(part, "most 119;");
+        Due.is("4 a number cut by n", -13, () -> part.talk(6));
+        Due.feed(part, "most 1190;");
+        Due.is("4 four digits cut by n", -12, () -> part.talk(8));
+        Due.feed(part, "unlikely;");
+        Due.is("4 a word cut by n", -12, () -> part.talk(6));
+        Due.is("4 the end is n", 6, () -> part.fault(1));
+        Due.feed(part, "unlike;;");
+        Due.is("4 lines cut by n", 1, () -> part.talk(7));
         TwoSlips x = new TwoSlips();
         Due.tell(x, "unlike");
         Due.illegal("4 talk throws", () -> x.talk(9));
@@ -233,6 +253,16 @@ public final class PromisesTest {
         Due.is("12 isLeft(2, 4)", true, () -> x.isLeft(2, 4));
         Due.noSuch("12 isLeft(9, 10)", () -> x.isLeft(9, 10));
         Due.illegal("12 isLeft(3, 0)", () -> x.isLeft(3, 0));
+        TwoSlips twenty = Due.told("numbers 1 to 20;speaker sum;say 0 above 3;say 0 above 4;say 0 above 5;say 0 above 6;say 0 above 7;say 0 above 8;"
+            + "say 0 above 9;say 0 above 10;say 0 above 11;say 0 above 12;say 0 above 13;say 0 above 14;say 0 above 15;say 0 above 16;"
+            + "say 0 above 17;say 0 above 18;say 0 above 36;say 0 above 37;say 0 was 20(above 38);say 0 was 18(above 39);");
+        Due.is("10 behind 19 of twenty turns", 2, () -> twenty.left(19));
+        Due.is("10 behind twenty turns", 1, () -> twenty.left(20));
+        Due.illegal("10 behind 21 turns", () -> twenty.left(21));
+        Due.is("11 behind twenty turns", 209, () -> twenty.leftAt(20, 0));
+        Due.is("13 behind twenty turns", 209, () -> twenty.only());
+        Due.is("16 the last turn of twenty", 19, () -> twenty.judge(208));
+        Due.is("18 behind twenty turns", 1, () -> twenty.knowing(0, 20));
         Due.is("13 several", NONE, () -> x.only());
         Due.is("13 one", 9, () -> Due.told(SURE).only());
         Due.is("13 none", NONE, () -> Due.told("numbers 2 to 2;unlike;").only());
@@ -381,6 +411,10 @@ public final class PromisesTest {
         Due.is("26 turn 2", 1, () -> x.soonest(w, 1, 0, 2));
         Due.is("26 not so many", NONE, () -> x.soonest(w, 1, 0, 3));
         Due.is("26 k below", NONE, () -> x.soonest(w, 1, 0, -2));
+        // 1 and 6: product and sum by turns, and the last one knows.
+        Due.is("26 five turns", 5, () -> x.soonest(5, 1, 0, NONE));
+        Due.is("26 the last of five", 1, () -> x.soonest(5, 1, 0, 4));
+        Due.is("26 no sixth", NONE, () -> x.soonest(5, 1, 0, 5));
         Due.is("26 nobody wanted", 0, () -> x.soonest(w, 0, 0, NONE));
         Due.is("26 nobody wanted, one hidden", 0, () -> x.soonest(w, 0, 2, NONE));
         Due.is("26 hidden and wanted", NONE, () -> x.soonest(w, 1, 1, NONE));
@@ -634,6 +668,16 @@ public final class PromisesTest {
         Due.is("37 a fault changes nothing", 9, () -> x.only());
         x.restore(1);
         Due.is("37 the fault stays", 2, () -> x.fault(0));
+        for (int i = 0; i < 3; i++) {
+            x.image(i);
+        }
+        Due.tell(x, NINE);
+        Due.tell(x, SHY);
+        Due.tell(x, NINE);
+        for (int i = 0; i < 3; i++) {
+            x.restore(i);
+            Due.is("37 one talk in all images", 9, () -> x.only());
+        }
         TwoSlips fresh = new TwoSlips();
         fresh.image(2);
         Due.tell(fresh, NINE);
@@ -652,6 +696,37 @@ public final class PromisesTest {
         Due.is("38 count(9)", NONE, () -> x.count(9));
         Due.is("38 count(-1)", NONE, () -> x.count(-1));
         Due.is("38 count(MIN)", NONE, () -> x.count(MIN));
+    }
+
+    private static int[] askAll(TwoSlips x) {
+        x.tray(0, 0, 2);
+        x.write(0, 0, 2);
+        return new int[] {x.count(7), x.only(), x.left(x.count(6)), x.leftAt(0, 4), x.judge(3), x.upTo(0), x.upTo(1), x.ends(1, 5),
+            x.rest(0, 1), x.when(0, 1, 3), x.longest(1, 0, 0), x.longest(0, 1, 1), x.soonest(3, 1, 0, NONE), x.soonest(3, 1, 0, 0),
+            x.shortest(4, 0), x.shortest(4, 1), x.shortest(4, 10), x.liar(0), x.liar(1), x.which(), x.orders(3, NONE), x.orders(3, 0),
+            x.mended(0), x.mended(1), x.mended(2), x.answers(0, 0), x.answers(0, 1), x.knowing(0, 0), x.heap(1, 3, 0), x.strikes(0)};
+    }
+
+    /** What was found out of one talk is not told of the next. */
+    private static void talksInTurn() {
+        String[] texts = {SHY, SURE, NINE, FOUR, "numbers 1 to 4;speaker product;speaker sum;say 0 not knows 0;say 1 knows 1;",
+            "numbers 2 to 6;speaker sum;speaker difference;say 1 not knows 0;", "numbers 1 to 4;unlike;speaker less;speaker sum liar;say 1 even;"};
+        TwoSlips x = new TwoSlips();
+        for (int one = 0; one < texts.length; one++) {
+            for (int other = 0; other < texts.length; other++) {
+                Due.tell(x, texts[one]);
+                x.image(one % 3);
+                String first = java.util.Arrays.toString(askAll(x));
+                Due.tell(x, texts[other]);
+                String second = java.util.Arrays.toString(askAll(x));
+                x.restore(one % 3);
+                String third = java.util.Arrays.toString(askAll(x));
+                String whole = java.util.Arrays.toString(askAll(Due.told(texts[one])));
+                Due.is("talk " + one, whole, () -> first);
+                Due.is("talk " + other + " behind " + one, java.util.Arrays.toString(askAll(Due.told(texts[other]))), () -> second);
+                Due.is("talk " + one + " restored behind " + other, whole, () -> third);
+            }
+        }
     }
 
     public static void main(String[] args) {
@@ -676,6 +751,7 @@ public final class PromisesTest {
         pour();
         images();
         counts();
+        talksInTurn();
         Due.end();
     }
 }

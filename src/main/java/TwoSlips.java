@@ -246,8 +246,6 @@ public final class TwoSlips {
     }
 
     public int when(int one, int other, int w) throws NoSuchElementException, IllegalArgumentException {
-        checkSpeaker(one);
-        checkSpeaker(other);
         int pair = pairOf(w);
         checkTwo(one, other);
         return muteTalk(one, other).endOf[pair];
@@ -1806,6 +1804,9 @@ public final class TwoSlips {
         }
 
         void seek(int n) {
+            if (turns != NONE || soughtTo >= n) {
+                return;
+            }
             asking.begin();
             int all = asking.high;
             if (soughtTo == NONE && all == 1) {

@@ -109,7 +109,7 @@ public final class TwoSlips {
         if (what != 0 && what != 1) {
             throw new IllegalArgumentException("no such what");
         }
-        return view().pairs.slips(what == 0 ? Pairs.LESS : Pairs.GREATER)[pair];
+        return what == 0 ? view().pairs.lower(pair) : view().pairs.higher(pair);
     }
 
     public int pair(int a, int b) {
@@ -119,7 +119,7 @@ public final class TwoSlips {
     public int told(int s, int w) throws NoSuchElementException {
         checkSpeaker(s);
         int pair = pairOf(w);
-        return view().pairs.slips(now.sight[s])[pair];
+        return view().pairs.slips[now.sight[s]][pair];
     }
 
     public int speaker(int s, int what) throws NoSuchElementException, IllegalArgumentException {
@@ -228,14 +228,10 @@ public final class TwoSlips {
     }
 
     public int upTo(int what) throws IllegalArgumentException {
-        switch (what) {
-            case 0:
-                return view().changes.firstGoodEnd();
-            case 1:
-                return view().changes.lastGoodEnd();
-            default:
-                throw new IllegalArgumentException("no such what");
+        if (what != 0 && what != 1) {
+            throw new IllegalArgumentException("no such what");
         }
+        return view().changes.goodEnd(what == 1);
     }
 
     // ---- I don't know
@@ -663,31 +659,25 @@ public final class TwoSlips {
             start = stop;
             if (stop >= length) {
                 kind = END;
-            } else if (isLetter(text[start])) {
+                return;
+            }
+            int c = text[start];
+            if (c >= 'a' && c <= 'z') {
                 kind = WORD;
-                while (stop < length && isLetter(text[stop])) {
+                while (stop < length && text[stop] >= 'a' && text[stop] <= 'z') {
                     stop++;
                 }
-            } else if (isDigit(text[start])) {
+            } else if (c >= '0' && c <= '9') {
                 value = 0;
-                while (stop < length && isDigit(text[stop])) {
+                while (stop < length && text[stop] >= '0' && text[stop] <= '9') {
                     value = stop - start < DIGITS ? 10 * value + text[stop] - '0' : value;
                     stop++;
                 }
                 kind = stop - start > DIGITS ? STRANGE : NUMBER;
             } else {
-                int c = text[start];
                 kind = c == ';' || c == '(' || c == ')' ? SIGN : STRANGE;
                 stop++;
             }
-        }
-
-        private static boolean isLetter(int c) {
-            return c >= 'a' && c <= 'z';
-        }
-
-        private static boolean isDigit(int c) {
-            return c >= '0' && c <= '9';
         }
 
         private boolean isWord(String word) {
@@ -938,9 +928,10 @@ public final class TwoSlips {
         static final int GREATER = 2;
         static final int LESS = 3;
         private static final int SLIPS = 2 * TOP * TOP + 1;
-        private static final int LAST_MARK = 2000000000;
+        private static final int HIGH_MARK = 1000000000;
 
-        private final int[][] slips = new int[SIGHTS][];
+        // By sight, then pair; empty until it is learnt.
+        final int[][] slips = new int[SIGHTS][0];
         // By slip: below mark it is not met, at mark once (or blamed), at mark + 1 more often.
         final int[] met = new int[SLIPS];
         int mark;
@@ -993,28 +984,36 @@ public final class TwoSlips {
             }
         }
 
-        /** What a sight tells, by pair. */
-        int[] slips(int sight) {
-            int[] row = slips[sight];
-            if (row == null) {
-                row = new int[ALL];
-                slips[sight] = row;
-                int pair = 0;
-                for (int x = 1; x <= TOP; x++) {
-                    for (int y = x; y <= TOP && pair < ALL; y++) {
-                        row[pair++] = slipOf(sight, x, y);
-                    }
+        /** Makes the slips of all sights that a talk's speakers have, and of those that facts go by. */
+        void learnFor(Talk talk) {
+            learn(SUM);
+            learn(GREATER);
+            learn(LESS);
+            for (int s = 0; s < talk.speakers; s++) {
+                learn(talk.sight[s]);
+            }
+        }
+
+        private void learn(int sight) {
+            if (slips[sight].length == ALL) {
+                return;
+            }
+            int[] row = new int[ALL];
+            slips[sight] = row;
+            int pair = 0;
+            for (int x = 1; x <= TOP; x++) {
+                for (int y = x; y <= TOP && pair < ALL; y++) {
+                    row[pair++] = slipOf(sight, x, y);
                 }
             }
-            return row;
         }
 
         int lower(int pair) {
-            return slips(LESS)[pair];
+            return slips[LESS][pair];
         }
 
         int higher(int pair) {
-            return slips(GREATER)[pair];
+            return slips[GREATER][pair];
         }
 
         /** Puts the worlds that a talk would have between other ends into a row: how many. */
@@ -1030,20 +1029,19 @@ public final class TwoSlips {
             return many;
         }
 
-        /** Forgets which slips were met. */
-        void renew() {
-            if (mark >= LAST_MARK) {
+        /** Keeps the mark low enough for any one call to come, whatever came before. */
+        void lowerMark() {
+            if (mark >= HIGH_MARK) {
                 for (int i = 0; i < met.length; i++) {
                     met[i] = 0;
                 }
                 mark = 0;
             }
-            mark += 2;
         }
 
         /** Meets the slips of the pairs from low on, below high: how many came just once. */
         int meet(int[] row, int low, int high, int[] slip) {
-            renew();
+            mark += 2;
             int once = 0;
             for (int i = low; i < high; i++) {
                 int s = slip[row[i]];
@@ -1081,7 +1079,7 @@ public final class TwoSlips {
 
         /** Meets the slips of those of the first pairs of a row in which a fact is not so. */
         void blame(int[] row, int many, int bit, int[] slip) {
-            renew();
+            mark += 2;
             for (int i = 0; i < many; i++) {
                 if ((truths[row[i]] & bit) == 0) {
                     met[slip[row[i]]] = mark;
@@ -1125,6 +1123,7 @@ public final class TwoSlips {
         }
 
         void take(Talk now) {
+            pairs.lowerMark();
             if (taken) {
                 return;
             }
@@ -1132,6 +1131,7 @@ public final class TwoSlips {
             listened = false;
             talk = now;
             many = Pairs.fill(list, talk, talk.from, talk.to);
+            pairs.learnFor(talk);
             changes.take(talk);
             mute.take(talk);
             asking.take(talk);
@@ -1145,7 +1145,9 @@ public final class TwoSlips {
             }
             listened = true;
             hearing.begin(talk, talk.from, talk.to);
-            hearing.goOn(talk.liars);
+            for (int t = 0; t < talk.turns; t++) {
+                hearing.say(t, talk.who[t], talk.liars);
+            }
             int place = 0;
             for (int t = talk.turns; t >= 0; t--) {
                 for (int i = place; i < hearing.left[t]; i++) {
@@ -1173,9 +1175,7 @@ public final class TwoSlips {
         }
 
         boolean isSo(int turn, int pair) {
-            boolean stands = struckBy[pair] >= turn;
-            hearing.weigh(talk.saying[turn], turn, hearing.left[stands ? turn : 0], 1, 0);
-            return (pairs.truths[pair] & 1) != 0;
+            return hearing.isSo(turn, pair, struckBy[pair] >= turn);
         }
 
         boolean maySay(int turn, int pair) {
@@ -1186,7 +1186,7 @@ public final class TwoSlips {
 
         /** How many worlds behind t turns, as far as he hears them, are like a pair to a speaker. */
         int allLike(int s, int pair, int t) {
-            int[] slip = pairs.slips(talk.sight[s]);
+            int[] slip = pairs.slips[talk.sight[s]];
             int standing = hearing.left[talk.isDeaf(s) ? 0 : t];
             int alike = 0;
             for (int i = 0; i < standing; i++) {
@@ -1203,7 +1203,7 @@ public final class TwoSlips {
         }
 
         int howManyKnown(int s, int t) {
-            int[] slip = pairs.slips(talk.sight[s]);
+            int[] slip = pairs.slips[talk.sight[s]];
             pairs.meet(hearing.row, 0, hearing.left[talk.isDeaf(s) ? 0 : t], slip);
             int known = 0;
             for (int i = 0; i < hearing.left[t]; i++) {
@@ -1281,17 +1281,23 @@ public final class TwoSlips {
         void blame(int turn, int s, int behind) {
             int heard = talk.isDeaf(s) ? 0 : behind;
             weigh(talk.saying[turn], heard, left[heard], 1, 0);
-            pairs.blame(row, left[heard], 1, pairs.slips(talk.sight[s]));
+            pairs.blame(row, left[heard], 1, pairs.slips[talk.sight[s]]);
         }
 
         /** Whether a speaker may say in a world what was blamed last. */
         boolean allows(int s, int pair, int liars) {
-            boolean sure = !pairs.isMet(pairs.slips(talk.sight[s])[pair]);
+            boolean sure = !pairs.isMet(pairs.slips[talk.sight[s]][pair]);
             return sure != ((liars >> s & 1) != 0);
         }
 
+        /** Whether a turn's saying is so in a pair ahead of it; a pair that was struck is weighed with all of them. */
+        boolean isSo(int turn, int pair, boolean stands) {
+            weigh(talk.saying[turn], turn, left[stands ? turn : 0], 1, 0);
+            return (pairs.truths[pair] & 1) != 0;
+        }
+
         private void strike(int s, boolean lies) {
-            int[] slip = pairs.slips(talk.sight[s]);
+            int[] slip = pairs.slips[talk.sight[s]];
             int[] met = pairs.met;
             int mark = pairs.mark;
             int many = left[turns];
@@ -1308,7 +1314,7 @@ public final class TwoSlips {
         }
 
         /** Weighs a fact behind so many turns, in the first pairs of the row: the bit of their truths tells whether it is so. */
-        void weigh(int fact, int behind, int many, int bit, int depth) {
+        private void weigh(int fact, int behind, int many, int bit, int depth) {
             // A text in which facts stand as deep in one another as this is never taken.
             if (depth > DEEPEST) {
                 return;
@@ -1364,7 +1370,7 @@ public final class TwoSlips {
         }
 
         private void weighKnows(int s, int standing, int many, int bit) {
-            int[] slip = pairs.slips(talk.sight[s]);
+            int[] slip = pairs.slips[talk.sight[s]];
             pairs.meet(row, 0, standing, slip);
             int[] met = pairs.met;
             int mark = pairs.mark;
@@ -1378,7 +1384,7 @@ public final class TwoSlips {
         }
 
         private void weighSees(int fact, int behind, int many, int bit, int depth) {
-            int[] slip = pairs.slips(talk.sight[talk.number[fact]]);
+            int[] slip = pairs.slips[talk.sight[talk.number[fact]]];
             weigh(talk.inner[fact], behind, left[behind], bit, depth);
             pairs.blame(row, left[behind], bit, slip);
             int[] met = pairs.met;
@@ -1392,8 +1398,8 @@ public final class TwoSlips {
 
         private void weighPlain(int kind, int number, int many, int bit) {
             int[] truths = pairs.truths;
-            int[] sum = pairs.slips(Pairs.SUM);
-            int[] lower = pairs.slips(Pairs.LESS);
+            int[] sum = pairs.slips[Pairs.SUM];
+            int[] lower = pairs.slips[Pairs.LESS];
             for (int i = 0; i < many; i++) {
                 int pair = row[i];
                 boolean is;
@@ -1449,28 +1455,26 @@ public final class TwoSlips {
             return hearing.goOn(talk.liars);
         }
 
-        int firstGoodEnd() {
-            if (firstEnd == UNSOUGHT) {
-                firstEnd = NONE;
-                for (int to = talk.from; to <= TOP && firstEnd == NONE; to++) {
-                    if (leftBetween(talk.from, to) == 1) {
-                        firstEnd = to;
-                    }
+        /** The first upper end, or the last one, by which just one would be left. */
+        int goodEnd(boolean last) {
+            int known = last ? lastEnd : firstEnd;
+            if (known != UNSOUGHT) {
+                return known;
+            }
+            int found = NONE;
+            for (int i = talk.from; i <= TOP && found == NONE; i++) {
+                int to = last ? TOP + talk.from - i : i;
+                hearing.begin(talk, talk.from, to);
+                if (hearing.goOn(talk.liars) == 1) {
+                    found = to;
                 }
             }
-            return firstEnd;
-        }
-
-        int lastGoodEnd() {
-            if (lastEnd == UNSOUGHT) {
-                lastEnd = NONE;
-                for (int to = TOP; to >= talk.from && lastEnd == NONE; to--) {
-                    if (leftBetween(talk.from, to) == 1) {
-                        lastEnd = to;
-                    }
-                }
+            if (last) {
+                lastEnd = found;
+            } else {
+                firstEnd = found;
             }
-            return lastEnd;
+            return found;
         }
 
         int leftIfLying(int s) {
@@ -1490,25 +1494,19 @@ public final class TwoSlips {
             mendedSpeaker = NONE;
             mendedPair = NONE;
             hearing.begin(talk, talk.from, talk.to);
-            for (int t = 0; t < talk.turns && mendedTurn == NONE; t++) {
-                mendTurn(t);
+            for (int t = 0; t < talk.turns; t++) {
+                for (int s = 0; s < talk.speakers; s++) {
+                    hearing.goBack(t);
+                    hearing.say(t, s, talk.liars);
+                    if (s != talk.who[t] && hearing.goOn(talk.liars) == 1) {
+                        mendedTurn = t;
+                        mendedSpeaker = s;
+                        mendedPair = hearing.row[0];
+                        return;
+                    }
+                }
                 hearing.goBack(t);
                 hearing.say(t, talk.who[t], talk.liars);
-            }
-        }
-
-        private void mendTurn(int t) {
-            for (int s = 0; s < talk.speakers && mendedTurn == NONE; s++) {
-                hearing.goBack(t);
-                if (s == talk.who[t]) {
-                    continue;
-                }
-                hearing.say(t, s, talk.liars);
-                if (hearing.goOn(talk.liars) == 1) {
-                    mendedTurn = t;
-                    mendedSpeaker = s;
-                    mendedPair = hearing.row[0];
-                }
             }
         }
 
@@ -1583,7 +1581,7 @@ public final class TwoSlips {
             int idle = 0;
             // Of two turns one strikes at least one pair, else it is over.
             for (int turn = 0; turn <= 2 * Pairs.ALL && idle < 2; turn++) {
-                int[] slip = pairs.slips(talk.sight[turn % 2 == 0 ? one : other]);
+                int[] slip = pairs.slips[talk.sight[turn % 2 == 0 ? one : other]];
                 if (pairs.meet(row, 0, rest, slip) == 0) {
                     idle++;
                 } else {
@@ -1637,7 +1635,7 @@ public final class TwoSlips {
                 if (number < 0 || number >= 2 * talk.speakers) {
                     return i;
                 }
-                int[] slip = pairs.slips(talk.sight[(int) (number / 2)]);
+                int[] slip = pairs.slips[talk.sight[(int) (number / 2)]];
                 pairs.meet(row, low, high, slip);
                 int known = pairs.partKnown(row, low, high, slip);
                 if (number % 2 == 0) {
@@ -1711,7 +1709,7 @@ public final class TwoSlips {
         private int knowingAtFirst(int all) {
             int bits = 0;
             for (int s = 0; s < asking.talk.speakers; s++) {
-                int[] slip = asking.pairs.slips(asking.talk.sight[s]);
+                int[] slip = asking.pairs.slips[asking.talk.sight[s]];
                 asking.pairs.meet(asking.row, 0, all, slip);
                 if (asking.pairs.isMetOnce(slip[pair])) {
                     bits |= 1 << s;
@@ -1728,7 +1726,7 @@ public final class TwoSlips {
                 if (s == last || talk.hasForerunner(s)) {
                     continue;
                 }
-                int[] slip = asking.pairs.slips(talk.sight[s]);
+                int[] slip = asking.pairs.slips[talk.sight[s]];
                 int known = asking.pairs.meet(asking.row, low, high, slip);
                 boolean knows = asking.pairs.isMetOnce(slip[pair]);
                 if (known == (knows ? high - low : 0) || anyLearns(low, high, slip, knows)) {
@@ -1770,7 +1768,7 @@ public final class TwoSlips {
 
         /** Whether a speaker knows in the world behind the answer for which slips were met last. */
         private boolean learns(int s, int low, int high, int[] slip, boolean knows) {
-            int[] his = asking.pairs.slips(asking.talk.sight[s]);
+            int[] his = asking.pairs.slips[asking.talk.sight[s]];
             int[] row = asking.row;
             for (int i = low; i < high; i++) {
                 int like = row[i];
@@ -1829,7 +1827,7 @@ public final class TwoSlips {
                 if (s == last || talk.hasForerunner(s)) {
                     continue;
                 }
-                int[] slip = asking.pairs.slips(talk.sight[s]);
+                int[] slip = asking.pairs.slips[talk.sight[s]];
                 int known = asking.pairs.meet(asking.row, low, high, slip);
                 // An answer that strikes nothing, or all, is in no shortest row.
                 if (known == 0 || known == high - low) {

@@ -2,6 +2,7 @@
 final class Due {
     private static int wrong;
     private static int asked;
+    private static String about = "";
 
     private Due() {
     }
@@ -19,12 +20,21 @@ final class Due {
         }
     }
 
+    static int asked() {
+        return asked;
+    }
+
+    /** Which sentence the next answers are asked for. */
+    static void about(String sentence) {
+        about = sentence + ": ";
+    }
+
     static void is(String what, Object want, Call call) {
         Object got = outcome(call);
         asked++;
         if (!String.valueOf(want).equals(String.valueOf(got))) {
             wrong++;
-            System.out.println(what + " answered " + got + ", due is " + want);
+            System.out.println(about + what + " answered " + got + ", due is " + want);
         }
     }
 

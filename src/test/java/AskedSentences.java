@@ -149,6 +149,9 @@ final class AskedSentences {
         TwoSlips four = Due.told(FOUR);
         Due.is("of two that end last the first", 2, () -> four.longest(0, 1, 0));
         Due.is("of two that end last the first", 3, () -> four.longest(0, 1, 1));
+        TwoSlips known = Due.told("numbers 1 to 4;speaker product;speaker nothing;");
+        Due.is("eight end at once", 0, () -> known.longest(0, 1, 0));
+        Due.is("the first of eight", 0, () -> known.longest(0, 1, 1));
         Due.is("all end at once", 0, () -> Due.told("numbers 5 to 5;speaker odd;speaker sum;").longest(0, 1, 0));
         Due.is("behind one", 1, () -> idle.longest(0, 1, 0));
         Due.is("4 and 4", 9, () -> idle.longest(0, 1, 1));
@@ -369,6 +372,11 @@ final class AskedSentences {
                     x.write(tray, place, 99);
                 }
             }
+        }
+        for (int tray = 0; tray < 4; tray++) {
+            int asked = tray;
+            x.tray(tray, 3 - tray, 40);
+            Due.is("all 0s: the sum doesn't know", 6, () -> x.answers(asked, 0));
         }
         x.tray(0, 0, 2);
         Due.is("a shorter row, 0s again", 2, () -> x.answers(0, 2));

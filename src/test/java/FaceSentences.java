@@ -159,7 +159,17 @@ final class FaceSentences {
         Due.feed(x, "unlike;unlike;most9;");
         Due.is("all bytes", 3, () -> x.talk(20));
 
+        retold();
+
         Doc.says(3, "-10 less the FAULT (all stays).");
+        TwoSlips plain = Due.told("numbers 1 to 4;unlike;speaker sum;say 0 even;");
+        for (int i = 0; i < 7; i++) {
+            Due.is("a fault", -12, () -> Due.tell(plain, "numbers 3 to 5;most 9;speaker odd liar;say 0 same;say 0"));
+            Due.is("lines", 4, () -> plain.count(0));
+            Due.is("worlds", 6, () -> plain.count(7));
+            Due.is("sight", 0, () -> plain.speaker(0, 0));
+            Due.is("left", 2, () -> plain.left(1));
+        }
         TwoSlips stays = Due.told(SHY);
         stays.tray(0, 0, 1);
         stays.image(0);
@@ -191,6 +201,32 @@ final class FaceSentences {
             Due.is("the tape stays", 20, () -> y.count(8));
         }
         Due.is("talk(20)", 1, () -> y.talk(20));
+    }
+
+    /** Nothing of one talk is left in the next, however often another one is told. */
+    private static void retold() {
+        TwoSlips x = new TwoSlips();
+        for (int round = 0; round < 7; round++) {
+            Due.is("a long talk", 8, () -> Due.tell(x,
+                "numbers 1 to 4;most 7;unlike;speaker product liar;speaker product deaf;say 0 even or same;say 1 same;say 0 not even;"));
+            Due.is("most", 7, () -> x.count(3));
+            Due.is("worlds", 6, () -> x.count(7));
+            Due.is("left", 0, () -> x.left(3));
+            Due.is("liar", 1, () -> x.speaker(0, 1));
+            Due.is("deaf", 1, () -> x.speaker(1, 2));
+            Due.is("world", 2, () -> x.world(0, 1));
+            Due.is("a short one", 3, () -> Due.tell(x, "speaker sum;speaker nothing;say 0 above 39;"));
+            int[] counts = {3, 2, 20, 120, 0, 2, 1, 190};
+            for (int what = 0; what < counts.length; what++) {
+                int asked = what;
+                Due.is("count(" + what + ")", counts[what], () -> x.count(asked));
+            }
+            Due.is("liar", 0, () -> x.speaker(0, 1));
+            Due.is("deaf", 0, () -> x.speaker(1, 2));
+            Due.is("world", 2, () -> x.world(0, 1));
+            Due.is("only", 189, () -> x.only());
+            Due.is("judge", 0, () -> x.judge(0));
+        }
     }
 
     private static void fault() {

@@ -45,6 +45,10 @@ final class SoughtSentences {
         Due.is("one turn strikes nothing, the next one does", 9, () -> idle.rest(0, 1));
         Due.is("the first one strikes, the next two don't", 9, () -> idle.rest(1, 0));
         Due.is("nothing is ever struck", 10, () -> idle.rest(0, 2));
+        Due.is("less and odd", 9, () -> idle.rest(1, 2));
+        Due.is("nothing and odd", 10, () -> idle.rest(0, 2));
+        Due.is("less and nothing", 9, () -> idle.rest(1, 0));
+        Due.is("odd and nothing", 10, () -> idle.rest(2, 0));
         Due.is("all is struck", 0, () -> Due.told(FOUR).rest(0, 1));
         Due.is("long", 8, () -> Due.told(NINE).rest(0, 1));
         Due.is("one world", 0, () -> Due.told("numbers 5 to 5;speaker nothing;speaker odd;").rest(0, 1));
@@ -80,6 +84,7 @@ final class SoughtSentences {
         rowIs(four, 3, 1, 0, "1");
         rowIs(four, 2, 1, 0, "1");
         rowIs(four, 2, 3, 0, "1");
+        rowIs(four, 3, 1, 0, "1");
         rowIs(four, 3, 2, 0, "none");
         rowIs(four, 3, 3, 0, "none");
         rowIs(four, 6, 1, 0, "none");
@@ -160,6 +165,8 @@ final class SoughtSentences {
         shortestIs("numbers 1 to 2;speaker odd;speaker less;", 4, "1", 1);
         shortestIs("numbers 1 to 2;speaker greater;speaker less;", 4, "1", 0);
         shortestIs("numbers 1 to 9;speaker product;speaker sum;", 4, "021", 3);
+        shortestIs("numbers 1 to 7;speaker digit;speaker product;", 4, "31", 10);
+        shortestIs("numbers 1 to 9;speaker product;", 4, "none", NONE);
     }
 
     private static void liarsAndOrders() {
@@ -187,6 +194,12 @@ final class SoughtSentences {
         Due.is("six turns", 720, () -> Due.told(FOUR + "say 0 even;".repeat(6)).orders(9, NONE));
         Due.is("seven turns", NONE, () -> Due.told(FOUR + "say 0 even;".repeat(7)).orders(9, NONE));
         Due.is("twenty turns", NONE, () -> Due.told(FOUR + "say 0 even;".repeat(20)).orders(9, NONE));
+        // A liar lies in each order: he may say it of odd sums, of which none is left where he comes behind.
+        String liar = "numbers 1 to 4;speaker sum liar;speaker sum;speaker nothing;say 0 even;say 2 not even;say 1 above 4;";
+        Due.is("a liar, then who hears nothing", 3, () -> Due.told(liar).orders(8, NONE));
+        Due.is("the liar first", 0, () -> Due.told(liar).orders(8, 0));
+        Due.is("who hears nothing next", 1, () -> Due.told(liar).orders(8, 1));
+        Due.is("even ones in no order", 0, () -> Due.told(liar).orders(9, NONE));
         // What was goes by the order, too: only behind another one are the odd ones gone.
         String was = FOUR + "say 0 was 1(sees 1(even));say 0 even;";
         Due.is("what was, in order", 1, () -> Due.told(was).orders(4, NONE));
@@ -215,6 +228,9 @@ final class SoughtSentences {
         mendedIs(three, NONE, NONE, NONE);
         mendedIs("numbers 1 to 3;speaker sum;say 0 above 5;", NONE, NONE, NONE);
         mendedIs("numbers 1 to 1;speaker sum;speaker sum;say 0 even;", 0, 1, 0);
+        mendedIs("numbers 1 to 3;speaker sum;speaker nothing;say 1 above 5;", 0, 0, 5);
+        mendedIs("numbers 1 to 3;speaker sum;speaker nothing;say 0 above 3;say 1 above 5;", 1, 0, 5);
+        mendedIs("numbers 1 to 3;speaker sum;speaker nothing;say 0 above 3;say 1 above 5;say 1 above 0;say 0 above 1;", 1, 0, 5);
         mendedIs("numbers 1 to 3;speaker nothing;speaker sum liar;say 0 not above 5;", 0, 1, 5);
     }
 

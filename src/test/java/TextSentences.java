@@ -299,6 +299,8 @@ final class TextSentences {
             }
         }
 
+        wordByWord();
+
         Doc.says("text", "words (small letters), N (1 to 3 digits), the signs ; ( ).");
         faulty("Unlike;", 1, 0);
         faulty("unlikE;", 2, 0);
@@ -316,6 +318,30 @@ final class TextSentences {
         faulty("most -9;", 1, 5);
         faulty("most +9;", 1, 5);
         faulty("most 9.;", 1, 6);
+    }
+
+    /** No word stands for another one that is like it but for a letter. */
+    private static void wordByWord() {
+        String[][] lines = {{"", "numbers", " 1 to 4;"}, {"numbers 1 ", "to", " 4;"}, {"", "most", " 9;"}, {"", "unlike", ";"},
+            {"", "speaker", " sum;"}, {"speaker sum ", "liar", ";"}, {"speaker sum ", "deaf", ";"}, {ONE, "say", " 0 even;"},
+            {SAY, "not", " even;"}, {SAY + "even ", "and", " same;"}, {SAY + "even ", "or", " same;"}, {SAY, "knows", " 0;"},
+            {SAY, "sees", " 0(even);"}, {SAY, "was", " 0(even);"}, {SAY, "even", ";"}, {SAY, "same", ";"}, {SAY, "above", " 9;"}};
+        for (String[] line : lines) {
+            sameWord(line[0], line[1], line[2]);
+        }
+        for (String sight : SIGHTS) {
+            sameWord("speaker ", sight, ";");
+        }
+    }
+
+    private static void sameWord(String ahead, String word, String behind) {
+        Due.is(ahead + word + behind, true, () -> Due.tell(new TwoSlips(), ahead + word + behind) > 0);
+        for (int i = 0; i < word.length(); i++) {
+            faulty(ahead + word.substring(0, i) + "z" + word.substring(i + 1) + behind, 2, ahead.length());
+        }
+        faulty(ahead + word + "z" + behind, 2, ahead.length());
+        faulty(ahead + word.substring(1) + behind, 2, ahead.length());
+        faulty(ahead + word.substring(0, word.length() - 1) + behind, 2, ahead.length());
     }
 
     private static void faults() {

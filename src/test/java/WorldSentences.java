@@ -156,11 +156,30 @@ final class WorldSentences {
             int asked = s;
             Due.is("like 2 and 2 to speaker " + s, heaps[s], () -> four.heap(asked, 4, 0));
         }
+        for (String sight : new String[] {"sum", "product", "greater", "less", "difference", "squares", "odd", "digit", "nothing"}) {
+            likeOnes(Due.told("numbers 1 to 60;speaker " + sight + ";say 0 knows 0;"), sight);
+        }
         TwoSlips others = Due.told("numbers 1 to 9;speaker squares;speaker odd;speaker nothing;speaker digit;");
         Due.is("1 and 7 has the squares of 5 and 5", 2, () -> others.heap(0, others.pair(5, 5), 0));
         Due.is("odd sums", 20, () -> others.heap(1, others.pair(4, 5), 0));
         Due.is("nothing", 45, () -> others.heap(2, others.pair(4, 5), 0));
         Due.is("sums of 2 and 12", 5, () -> others.heap(3, others.pair(1, 1), 0));
+    }
+
+    /** Of all 1830 worlds: which have a slip of their own. */
+    private static void likeOnes(TwoSlips x, String sight) {
+        int[] met = new int[7201];
+        int own = 0;
+        for (int w = 0; w < 1830; w++) {
+            met[x.told(0, w)]++;
+        }
+        for (int w = 0; w < 1830; w++) {
+            own += met[x.told(0, w)] == 1 ? 1 : 0;
+        }
+        int alone = own;
+        Due.is("worlds with a " + sight + " of their own", alone, () -> x.knowing(0, 0));
+        Due.is("where he knows the " + sight, alone, () -> x.left(1));
+        Due.is("like the last one", met[x.told(0, 1829)], () -> x.heap(0, 1829, 0));
     }
 
     private static void plainFacts() {

@@ -226,6 +226,9 @@ final class FaceSentences {
             Due.is("world", 2, () -> x.world(0, 1));
             Due.is("only", 189, () -> x.only());
             Due.is("judge", 0, () -> x.judge(0));
+            // A third one, so that no two of them come by turns.
+            Due.is("a line", 1, () -> Due.tell(x, "numbers 5 to 6;"));
+            Due.is("no turns", 3, () -> x.left(0));
         }
     }
 
